@@ -24,6 +24,10 @@ final class Due {
         }
     }
 
+    static int askedSoFar() {
+        return asked;
+    }
+
     static int wrongSoFar() {
         return wrong;
     }
