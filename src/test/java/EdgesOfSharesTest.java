@@ -382,6 +382,15 @@ public final class EdgesOfSharesTest {
         }
     }
 
+    static void p12ItsClassIsAlike() {
+        SurvivorPurse x = Worlds.stairs(3);
+        x.buy(2, 2, 0, 5, SHARE, 0);
+        due("split", x.split(3, 2), 4);
+        due("new class", x.share(4, 4), 2);
+        due("shares of the class", x.about(2, 5), 3);
+        due("UNITS of the class", x.about(2, 4), 6);
+    }
+
     static void p12YearsSureAreAlike() {
         for (int kind = SURE; kind <= BACK; kind++) {
             SurvivorPurse x = Worlds.newborn(1, 10);

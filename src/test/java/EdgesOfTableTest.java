@@ -301,8 +301,9 @@ public final class EdgesOfTableTest {
         due("behind 109 nobody lives, the other way", x.dearer(2, 1), -1);
         x.living(109, 0);
         due("nor at 109", x.dearer(1, 2), 0);
-        x.group(107, 107, 10000);
-        due("nor at 109, and 107", x.dearer(1, 3), 1);
+        x.group(106, 106, 10000);
+        due("nor at 109, and 106", x.dearer(1, 3), 1);
+        due("nor at 109, and 106, the other way", x.dearer(3, 1), -1);
     }
 
     static void p5NothingForetoldIsAsGreatAsSuch() {

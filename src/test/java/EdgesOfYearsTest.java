@@ -349,6 +349,20 @@ public final class EdgesOfYearsTest {
         due("all DEBTS", x.told(6), 0);
     }
 
+    static void p21DebtsOfSeveral() {
+        SurvivorPurse x = Worlds.newborn(2, 1);
+        x.buy(0, 0, 0, 1, SHARE, 0);
+        x.buy(1, 1, 0, 2, SHARE, 0);
+        for (int year = 0; year < 2; year++) {
+            x.proof(0);
+            x.proof(1);
+            x.close(30);
+        }
+        x.death(0, 0);
+        x.death(1, 0);
+        due("10 and 20", x.told(6), 30);
+    }
+
     static void p21GreatDebts() {
         SurvivorPurse x = Worlds.newborn(1, 1);
         x.buy(0, 0, 0, 1, SHARE, 0);
@@ -432,41 +446,132 @@ public final class EdgesOfYearsTest {
         due("THE YEAR", x.told(0), 1);
     }
 
-    static void p23WhatComesNewBehindItIsNew() {
-        SurvivorPurse x = Worlds.newborn(2, 10);
+    /** Changes all that can change in busy(), and adds one of each. */
+    private static SurvivorPurse disturbed(SurvivorPurse x) {
+        x.living(50, 55100);
+        x.set(0, 1);
+        x.set(1, 555);
+        x.member(1);
+        x.heir(5, 2);
+        x.heir(0, 5);
+        x.heir(1, 2);
+        x.group(0, 50, 9);
+        x.buy(5, 5, 0, 40, BACK, 1);
+        x.buy(5, 5, 4, 30, JOINT, 0);
+        x.split(1, 3);
+        x.sell(0, 5);
+        x.sell(2, 0);
+        for (int s = 0; s < 9; s++) {
+            x.pledge(s, s % 3, 100 + s);
+        }
+        for (int m = 0; m < 6; m++) {
+            x.proof(m);
+        }
+        x.close(10000);
+        x.proof(5);
+        x.close(20000);
+        x.close(30000);
+        x.death(5, 1);
+        x.death(4, 2);
+        x.death(0, 3);
+        x.close(40000);
+        x.close(50000);
+        x.proof(2);
+        return x;
+    }
+
+    private static SurvivorPurse busyAndKept() {
+        SurvivorPurse x = Worlds.busy();
         x.keep();
-        x.member(0);
-        x.heir(2, 0);
-        x.group(0, 1, 2);
-        x.buy(2, 2, 0, 5, BACK, 1);
-        x.buy(2, 2, 0, 5, SHARE, 0);
-        x.pledge(0, 1, 7);
-        x.pledge(1, 1, 7);
-        x.close(100);
-        x.close(50);
-        x.death(2, 0);
-        x.close(0);
+        return x;
+    }
+
+    static void p22AllIsKept() {
+        Edges.alike("keep() itself changes nothing but what is kept", EdgesOfYearsTest::busyAndKept, () -> {
+            SurvivorPurse x = busyAndKept();
+            x.keep();
+            return x;
+        });
+        Edges.alike("keep(), much, back()", () -> {
+            SurvivorPurse x = disturbed(busyAndKept());
+            x.back();
+            return x;
+        }, EdgesOfYearsTest::busyAndKept);
+    }
+
+    static void p22WhatIsKeptIsNotTouchedLater() {
+        Edges.alike("much, back(), much, back()", () -> {
+            SurvivorPurse x = disturbed(busyAndKept());
+            x.back();
+            disturbed(x);
+            x.back();
+            return x;
+        }, EdgesOfYearsTest::busyAndKept);
+    }
+
+    /** One more of each, in rows that disturbed() has used. */
+    private static SurvivorPurse oneMoreOfEach(SurvivorPurse x) {
+        x.member(-1);
+        x.group(0, 110, 4);
+        x.buy(5, 5, 0, 3, SHARE, 0);
+        x.buy(5, 5, 4, 3, BACK, 2);
+        x.split(2, 1);
+        return x;
+    }
+
+    static void p23WhatComesNewBehindItIsNew() {
+        Edges.alike("one more of each behind back()", () -> {
+            SurvivorPurse x = disturbed(busyAndKept());
+            x.back();
+            return oneMoreOfEach(x);
+        }, () -> oneMoreOfEach(busyAndKept()));
+    }
+
+    private static SurvivorPurse allNew(SurvivorPurse x) {
+        x.member(-3);
+        x.member(-4);
+        x.group(3, 3, 7);
+        x.group(4, 4, 8);
+        x.buy(0, 1, 0, 3, SHARE, 0);
+        x.buy(1, 0, 0, 4, BACK, 1);
+        x.buy(1, 0, 1, 4, JOINT, 0);
+        return x;
+    }
+
+    /** Rows that were used leave nothing: 0 is PROVED and owes, share 0 is pledged and LOST, BACK of 1 went. */
+    private static SurvivorPurse usedAndBackToNothing() {
+        SurvivorPurse x = new SurvivorPurse();
+        x.keep();
+        for (int m = 0; m < 3; m++) {
+            x.member(0);
+        }
+        x.group(0, 110, 5);
+        x.buy(2, 2, 0, 9, SHARE, 0);
+        x.buy(0, 1, 0, 9, BACK, 1);
+        for (int year = 0; year < 4; year++) {
+            x.proof(1);
+            x.proof(2);
+            x.close(10);
+        }
+        x.death(1, 0);
+        x.close(70);
+        x.close(70);
+        x.pledge(0, 1, 50);
+        x.proof(0);
+        Due.due("DEBT", x.of(0, 1), 15);
+        Due.due("PROVED", x.of(0, 3), 1);
+        Due.due("LOST", x.share(0, 11), 2);
+        Due.due("BACK went", x.about(0, 3), 90 - 25);
         x.back();
-        due("the member again", x.member(-1), 2);
-        long[] member = {0, 0, -1, 0, Due.NO, -1};
-        for (int what = 0; what <= 5; what++) {
-            due("of(2, " + what + ")", x.of(2, what), member[what]);
-        }
-        due("the class again", x.group(2, 3, 4), 1);
-        long[] group = {2, 3, 4, 0, 0, 0};
-        for (int what = 0; what <= 5; what++) {
-            due("about(1, " + what + ")", x.about(1, what), group[what]);
-        }
-        due("the share again", x.buy(2, 0, 0, 3, BACK, 2), 0);
-        long[] share = {2, 0, -1, 3, 0, 3, 30, 0, 0, 0, 0, 0, 0};
-        for (int what = 0; what <= 12; what++) {
-            due("share(0, " + what + ")", x.share(0, what), share[what]);
-        }
-        x.death(0, 0);
-        due("paid out to its new holder", x.close(4), 4);
-        x.close(0);
-        due("its BACK did not go yet: it goes now", x.of(2, 0), 30);
-        due("the pledge that was not is not", x.of(1, 0), 0);
+        return x;
+    }
+
+    static void p23BehindAnEmptyStateAllIsNew() {
+        Edges.alike("all new behind back()", () -> allNew(usedAndBackToNothing()), () -> {
+            SurvivorPurse x = new SurvivorPurse();
+            x.keep();
+            return allNew(x);
+        });
     }
 
     static void p23ProofsDeathsAndHeirsToo() {

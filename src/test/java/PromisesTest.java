@@ -50,16 +50,6 @@ public final class PromisesTest {
         Due.due(call, got, want);
     }
 
-    /** Members 0 to n - 1, all born in the year 0, and one class of all ages. */
-    private static SurvivorPurse with(int members, int price) {
-        SurvivorPurse x = new SurvivorPurse();
-        for (int m = 0; m < members; m++) {
-            x.member(0);
-        }
-        x.group(0, 110, price);
-        return x;
-    }
-
     private static void promise1NewObject() {
         SurvivorPurse x = new SurvivorPurse();
         for (int what = 0; what <= 10; what++) {
@@ -183,7 +173,7 @@ public final class PromisesTest {
     }
 
     private static void promise7Heir() {
-        SurvivorPurse x = with(3, 1);
+        SurvivorPurse x = Worlds.newborn(3, 1);
         due("7: first", x.heir(0, 1), -1);
         due("7: another", x.heir(0, 2), 1);
         due("7: itself", x.heir(0, 0), NO);
@@ -235,7 +225,7 @@ public final class PromisesTest {
     }
 
     private static void promise10Buy() {
-        SurvivorPurse x = with(3, 9);
+        SurvivorPurse x = Worlds.newborn(3, 9);
         x.close(0);
         due("10: SHARE", x.buy(0, 1, MAX, 1000, 0, MIN), 0);
         due("10: JOINT", x.buy(1, 2, 0, 1, 1, -1), 1);
@@ -260,7 +250,7 @@ public final class PromisesTest {
     }
 
     private static void promise10BuyRefused() {
-        SurvivorPurse x = with(3, 9);
+        SurvivorPurse x = Worlds.newborn(3, 9);
         x.death(2, 0);
         due("10: no holder", x.buy(3, 0, 0, 1, 0, 0), NO);
         due("10: holder -1", x.buy(-1, 0, 0, 1, 0, 0), NO);
@@ -315,7 +305,7 @@ public final class PromisesTest {
     }
 
     private static void promise11Sell() {
-        SurvivorPurse x = with(3, 5);
+        SurvivorPurse x = Worlds.newborn(3, 5);
         x.buy(0, 0, 0, 1, 0, 0);
         due("11: sell", x.sell(0, 1), 0);
         due("11: to its holder", x.sell(0, 1), 1);
@@ -337,7 +327,7 @@ public final class PromisesTest {
     }
 
     private static void promise12Split() {
-        SurvivorPurse x = with(2, 9);
+        SurvivorPurse x = Worlds.newborn(2, 9);
         x.buy(0, 0, 0, 7, 0, 0);
         x.proof(0);
         x.close(100);
@@ -377,7 +367,7 @@ public final class PromisesTest {
     }
 
     private static void promise12SplitKeepsBackThatWent() {
-        SurvivorPurse x = with(1, 10);
+        SurvivorPurse x = Worlds.newborn(1, 10);
         x.buy(0, 0, 0, 10, 3, 1);
         x.split(0, 4);
         x.death(0, 0);
@@ -392,7 +382,7 @@ public final class PromisesTest {
     }
 
     private static void promise13Pledge() {
-        SurvivorPurse x = with(3, 5);
+        SurvivorPurse x = Worlds.newborn(3, 5);
         x.buy(0, 0, 0, 1, 0, 0);
         due("13: first", x.pledge(0, 1, 1000000000), 0);
         due("13: too much", x.pledge(0, 1, 1000000001), NO);
@@ -423,7 +413,7 @@ public final class PromisesTest {
     }
 
     private static void promise14Share() {
-        SurvivorPurse x = with(4, 6);
+        SurvivorPurse x = Worlds.newborn(4, 6);
         x.group(0, 110, 7);
         x.close(0);
         x.buy(3, 1, 2, 5, 1, 9);
@@ -441,7 +431,7 @@ public final class PromisesTest {
     }
 
     private static void promise14HowAShareIs() {
-        SurvivorPurse x = with(2, 6);
+        SurvivorPurse x = Worlds.newborn(2, 6);
         x.proof(0);
         x.buy(0, 0, 0, 1, 0, 0);
         x.buy(0, 0, 1, 1, 1, 0);
@@ -481,7 +471,7 @@ public final class PromisesTest {
     }
 
     private static void promise15Drew() {
-        SurvivorPurse x = with(2, 6);
+        SurvivorPurse x = Worlds.newborn(2, 6);
         x.buy(0, 0, 0, 1, 0, 0);
         due("15: no year is closed", x.drew(0, 0), NO);
         x.proof(0);
@@ -508,7 +498,7 @@ public final class PromisesTest {
     }
 
     private static void promise16Proof() {
-        SurvivorPurse x = with(3, 6);
+        SurvivorPurse x = Worlds.newborn(3, 6);
         x.buy(0, 0, 0, 3, 0, 0);
         x.buy(1, 1, 0, 2, 1, 0);
         x.buy(2, 2, 0, 1, 0, 0);
@@ -539,7 +529,7 @@ public final class PromisesTest {
     }
 
     private static void promise17Death() {
-        SurvivorPurse x = with(2, 6);
+        SurvivorPurse x = Worlds.newborn(2, 6);
         x.close(0);
         x.member(1);
         x.buy(1, 0, 0, 1, 0, 0);
@@ -579,7 +569,7 @@ public final class PromisesTest {
     }
 
     private static void promise17DeathOfJoint() {
-        SurvivorPurse x = with(3, 6);
+        SurvivorPurse x = Worlds.newborn(3, 6);
         x.buy(2, 0, 1, 1, 1, 0);
         x.proof(0);
         x.close(10);
@@ -602,7 +592,7 @@ public final class PromisesTest {
 
     private static void promise17DeathOfSure() {
         for (int kind = 2; kind <= 3; kind++) {
-            SurvivorPurse x = with(2, 1000);
+            SurvivorPurse x = Worlds.newborn(2, 1000);
             x.close(0);
             x.buy(1, 0, 0, 1, kind, 2);
             x.close(10);
@@ -620,7 +610,7 @@ public final class PromisesTest {
 
     private static void promise17DeathInOrder() {
         for (int first = 0; first <= 1; first++) {
-            SurvivorPurse x = with(3, 6);
+            SurvivorPurse x = Worlds.newborn(3, 6);
             x.buy(2, 0, 1, 1, first, 0);
             x.buy(2, 0, 1, 1, 1 - first, 0);
             x.proof(0);
@@ -695,7 +685,7 @@ public final class PromisesTest {
     }
 
     private static void promise18ClosePaysOut() {
-        SurvivorPurse x = with(4, 6);
+        SurvivorPurse x = Worlds.newborn(4, 6);
         x.buy(0, 1, 0, 1, 0, 0);
         x.buy(0, 0, 0, 1, 0, 0);
         x.proof(0);
@@ -753,7 +743,7 @@ public final class PromisesTest {
     }
 
     private static void promise18BackGoes() {
-        SurvivorPurse x = with(4, 10);
+        SurvivorPurse x = Worlds.newborn(4, 10);
         x.buy(1, 0, 0, 10, 3, 2);
         x.buy(1, 0, 0, 10, 2, 2);
         x.buy(1, 2, 0, 10, 3, 1);
@@ -774,7 +764,7 @@ public final class PromisesTest {
         x.close(0);
         due("18: to the HOLDER, not its heir", x.of(1, 0) - purse, 50);
         due("18: of the other BACK", x.about(0, 3), 200);
-        SurvivorPurse y = with(2, 1);
+        SurvivorPurse y = Worlds.newborn(2, 1);
         y.buy(1, 0, 0, 10, 3, 1);
         y.death(0, 0);
         due("18: drawn more than PAID", y.close(11), 11);
@@ -782,7 +772,7 @@ public final class PromisesTest {
     }
 
     private static void promise18BackGoesOnce() {
-        SurvivorPurse x = with(3, 10);
+        SurvivorPurse x = Worlds.newborn(3, 10);
         x.buy(1, 0, 0, 5, 3, 1);
         x.buy(2, 0, 0, 5, 3, 1);
         x.death(0, 0);
@@ -797,7 +787,7 @@ public final class PromisesTest {
     }
 
     private static void promise18CloseEnds() {
-        SurvivorPurse x = with(1, 10000);
+        SurvivorPurse x = Worlds.newborn(1, 10000);
         x.set(0, 5);
         for (int s = 0; s < 40; s++) {
             x.buy(0, 0, 0, 1000, 0, 0);
@@ -863,7 +853,7 @@ public final class PromisesTest {
     }
 
     private static void promise21Told() {
-        SurvivorPurse x = with(2, 10);
+        SurvivorPurse x = Worlds.newborn(2, 10);
         x.buy(0, 0, 0, 3, 0, 0);
         x.buy(1, 1, 0, 3, 3, 1);
         x.split(0, 1);
@@ -885,7 +875,7 @@ public final class PromisesTest {
     }
 
     private static void promise22And23KeepAndBack() {
-        SurvivorPurse x = with(3, 10);
+        SurvivorPurse x = Worlds.newborn(3, 10);
         x.buy(0, 0, 0, 4, 3, 1);
         x.buy(1, 1, 0, 4, 0, 0);
         x.proof(1);

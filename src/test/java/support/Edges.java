@@ -41,6 +41,7 @@ final class Edges {
     private static final Step[] LATER = {
         x -> { },
         x -> x.back(),
+        x -> x.close(1000003),
         Edges::proveAllAndClose,
         Edges::learnAllDeathsAndClose,
     };
@@ -73,8 +74,17 @@ final class Edges {
     /** The call answers NO, and whoever asks anything now or later can't tell that it was made. */
     static void refused(String call, World world, Call refused) {
         Due.due(call, refused.on(world.make()), Due.NO);
-        for (int later = 0; later < LATER.length; later++) {
-            changesNothing(call + ", asked in way " + later, world, refused, LATER[later]);
+        alike(call, () -> {
+            SurvivorPurse x = world.make();
+            refused.on(x);
+            return x;
+        }, world);
+    }
+
+    /** Whoever asks anything of both, now or later, has the same answers. */
+    static void alike(String what, World got, World want) {
+        for (int way = 0; way < LATER.length; way++) {
+            alikeThen(what + ", asked in way " + way, got, want, LATER[way]);
         }
     }
 
@@ -83,19 +93,18 @@ final class Edges {
         Due.due(call, taken.on(world.make()), want);
     }
 
-    private static void changesNothing(String call, World world, Call refused, Step later) {
-        SurvivorPurse probe = world.make();
+    private static void alikeThen(String what, World got, World want, Step later) {
+        SurvivorPurse probe = want.make();
         later.on(probe);
         List<Question> questions = questionsFor(probe);
         for (int from = 0; from < questions.size(); from += QUESTIONS_OF_ONE) {
-            SurvivorPurse without = world.make();
-            SurvivorPurse with = world.make();
-            refused.on(with);
-            later.on(without);
-            later.on(with);
+            SurvivorPurse one = got.make();
+            SurvivorPurse other = want.make();
+            later.on(one);
+            later.on(other);
             int to = Math.min(questions.size(), from + QUESTIONS_OF_ONE);
             for (Question q : questions.subList(from, to)) {
-                Due.due(call + ": " + q.name + " behind it", q.call.on(with), q.call.on(without));
+                Due.due(what + ": " + q.name + " behind it", q.call.on(one), q.call.on(other));
             }
         }
     }
@@ -148,7 +157,8 @@ final class Edges {
         for (int m = 0; m < members; m++) {
             x.death(m, Math.max((int) x.of(m, 2), year / 2));
         }
-        x.close(1000003);
-        x.close(7);
+        // With a great yield all would be drawn in years sure, and none would go BACK.
+        x.close(1);
+        x.close(0);
     }
 }
