@@ -24,6 +24,7 @@ public final class FaceTest {
         membersAreThoseOfTheDocument();
         nestedClassesKeepTheRules();
         sourceHasNoForbiddenWords();
+        methodsAreShort();
         noCallThrows();
         Due.end();
     }
@@ -113,6 +114,26 @@ public final class FaceTest {
                 Due.holds("signs of the source are plain", false);
             }
         }
+    }
+
+    /** A method of the class itself stands 4 signs from the left, one of a class inside 8. */
+    private static void methodsAreShort() throws Exception {
+        String[] lines = Files.readString(Path.of("src/main/java/SurvivorPurse.java")).split("\n");
+        Pattern head = Pattern.compile("( {4}| {8})[A-Za-z].*\\) \\{");
+        int found = 0;
+        for (int from = 0; from < lines.length; from++) {
+            Matcher m = head.matcher(lines[from]);
+            if (!m.matches()) {
+                continue;
+            }
+            found++;
+            int to = from;
+            while (to < lines.length && !lines[to].equals(m.group(1) + "}")) {
+                to++;
+            }
+            Due.holds("at most sixty lines: " + lines[from].trim(), to - from < 60);
+        }
+        Due.holds("the source has methods, each is looked at", found > FACE.size());
     }
 
     private static void noCallThrows() throws Exception {
